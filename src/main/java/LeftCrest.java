@@ -820,7 +820,6 @@ public final class LeftCrest {
 
         /** How many ITEMS were told to the draft, or where they can't be (-10 less that). */
         int tell(Stage draft) {
-            draft.reset(0, 0);
             behind = 0;
             step();
             if (!roadTold(draft)) return FAULT_AT_0 - start;

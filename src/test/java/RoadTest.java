@@ -200,6 +200,10 @@ public final class RoadTest {
         fault("road 0 0  ", 10);
         fault("roads 0 0;", 0);
         fault("Road 0 0;", 0);
+        fault("load 0 0;", 0);
+        fault("roar 0 0;", 0);
+        fault("road 0 0;send 1 1 1 1;", 9);
+        fault("road 0 0;bend 1 1 1 1;bud 0;", 22);
         fault(" bend 1 1 1 1;", 1);
         fault("; road 0 0;", 0);
         fault("7", 0);
