@@ -294,12 +294,13 @@ public final class LeftCrest {
             int plain = note == 0 ? 2 : note;
             int brave = plain < MOST_PACE ? plain + 1 : MOST_PACE;
             int careful = plain > 1 ? plain - 1 : 1;
+            int slowed = brave > 3 ? brave - 2 : 1;
             switch (kind) {
                 case SIGHT: return fog <= 3 ? holds : plain;
                 case BRAVE: return brave;
                 case CAREFUL: return careful;
                 case EAR: return fog < 7 ? careful + 1 : careful;
-                case MUDDY: return mud == 1 ? Math.max(1, brave - 2) : brave;
+                case MUDDY: return mud == 1 ? slowed : brave;
                 default: return plain;
             }
         }
@@ -923,7 +924,7 @@ public final class LeftCrest {
 
         int runEnd(int first, int least, int most) {
             for (int i = first; i < size; i++) {
-                if (!within(bytes[i], least, most)) return i;
+                if (bytes[i] < least || bytes[i] > most) return i;
             }
             return size;
         }

@@ -10,6 +10,7 @@ public final class RoadTest {
         readItems();
         readInOrder();
         readFaults();
+        readFullText();
         readTakesThePlace();
         Check.end();
     }
@@ -244,6 +245,20 @@ public final class RoadTest {
         fault(eight + " bend x", eight.length() + 1);
         fault(eight + "drive 9;", eight.length() + 6);
         fault(eight + "mud 8;", eight.length() + 4);
+    }
+
+    private static void readFullText() {
+        LeftCrest x = new LeftCrest();
+        Check.due("150 blanks", -10 - 150, Check.read(x, " ".repeat(150)));
+        Check.due("150 letters", -10, Check.read(x, "a".repeat(150)));
+        Check.due("150 figures", -10, Check.read(x, "1".repeat(150)));
+        Check.due("150 bytes, blanks last", 1, Check.read(x, "road 3 4;" + " ".repeat(141)));
+        Check.due("150 bytes, ; last", 1, Check.read(x, " ".repeat(141) + "road 4 3;"));
+        Check.due("150 bytes: kind", 4, x.now(3));
+        Check.due("150 bytes, a number last", -10 - 150, Check.read(x, " ".repeat(142) + "road 4 3"));
+        Check.due("150 bytes, a word last", -10 - 150, Check.read(x, " ".repeat(146) + "road"));
+        String many = "road 0 0;bend 1 1 1 1;" + "mud0;".repeat(25);
+        Check.due("as many items as may be", 27, Check.read(x, many));
     }
 
     private static void readTakesThePlace() {
