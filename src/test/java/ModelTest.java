@@ -2,7 +2,8 @@ import java.util.Random;
 
 /** Runs of calls by a seed, each answered by the class as by the model. */
 public final class ModelTest {
-    private static final int RUNS = 3000, CALLS = 500;
+    /** The digest is asked behind each call, so that an object gets 512 calls at most. */
+    private static final int RUNS = 6000, CALLS = 250;
     private static final int[] WILD = {Integer.MIN_VALUE, -1000, -3, -2, -1, 7, 8, 9, 10, 11, 61, 128, 1000000,
         Integer.MAX_VALUE};
     private static final String[] PIECES = {"road ", "bend ", "mud ", "drive ", ";", ";", " ", "0", "1", "2 ", "3 ", "4 ",
